@@ -8,6 +8,7 @@ public final class GameTest {
         stopWithBells();
         ownBellsAndTicks();
         wornChairs();
+        chairsMoveUp();
         leastChairs();
         set();
         Due.end();
@@ -159,6 +160,30 @@ public final class GameTest {
         Due.due("the worn one and the last one are gone", x.chairOf(0, 0), 1);
         Due.due("its sitter moved up with it", x.chairOf(0, 2), 1);
         Due.due("its sittings too", x.chairOf(0, 1), 1);
+    }
+
+    private static void chairsMoveUp() {
+        BellChairs x = Due.made(new int[] {5, 6}, new int[3]);
+        x.start();
+        x.stop();
+        for (int tone = 1; tone <= 3; tone++) {
+            x.chair(tone);
+            x.player(0, 0);
+        }
+        Due.due("start", x.start(), 5);
+        Due.due("stop", x.stop(), 32);
+        Due.due("chairs", x.count(1), 3);
+        int[] sitters = {1, 3, 4};
+        for (int place = 0; place < 3; place++) {
+            Due.due("tone", x.chairOf(place, 0), place + 1);
+            Due.due("sittings", x.chairOf(place, 1), 1);
+            Due.due("sitter", x.chairOf(place, 2), sitters[place]);
+            Due.due("the place that it had when it rang", x.bell(2 - place, 2), place + 1);
+        }
+        Due.due("its end", x.chairOf(3, 0), Due.INVALID);
+        Due.due("a new chair", x.chair(8), 3);
+        Due.due("it was never used", x.chairOf(3, 1), 0);
+        Due.due("nobody sat on it", x.chairOf(3, 2), Due.MISSING);
     }
 
     private static void leastChairs() {

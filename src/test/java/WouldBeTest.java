@@ -11,6 +11,7 @@ public final class WouldBeTest {
         twoSums();
         undo();
         undoAll();
+        undoEach();
         Due.end();
     }
 
@@ -216,6 +217,51 @@ public final class WouldBeTest {
         x.type('c');
         Due.due("undo leaves the text", x.undo(), 0);
         Due.due("length", x.count(15), 1);
+    }
+
+    private static void undoEach() {
+        BellChairs x = Due.made(new int[] {1, 2}, new int[] {3, 4, 5});
+        String before = ahead(x);
+        x.chair(3);
+        back("chair", x, before);
+        before = ahead(x);
+        x.player(1, 1);
+        back("player", x, before);
+        before = ahead(x);
+        x.tune(1, 8);
+        back("tune", x, before);
+        before = ahead(x);
+        x.train(2, 9, 511);
+        back("train", x, before);
+        before = ahead(x);
+        x.set(0, x.count(20) % 3 + 1);
+        back("set", x, before);
+        before = ahead(x);
+        x.start();
+        back("start", x, before);
+        Due.write(x, "c7;p1,1;p1,1;g;");
+        before = ahead(x);
+        Due.due("play", x.play(), 4);
+        back("play", x, before);
+        x.start();
+        before = ahead(x);
+        x.beat(7);
+        back("beat", x, before);
+        before = ahead(x);
+        x.stop();
+        back("stop", x, before);
+    }
+
+    /** Another change, so that the one ahead has left no trace where the next one is kept. */
+    private static String ahead(BellChairs x) {
+        x.set(0, x.count(20) % 3 + 1);
+        return Told.of(x);
+    }
+
+    private static void back(String call, BellChairs x, String before) {
+        Due.due(call + " has changed something", Told.of(x).equals(before) ? 1 : 0, 0);
+        Due.due("undo of " + call, x.undo() >= 0 ? 1 : 0, 1);
+        Due.due(call + " is undone", Told.of(x).equals(before) ? 1 : 0, 1);
     }
 
     private static void undoAll() {
