@@ -1,3 +1,5 @@
+import java.util.function.Supplier;
+
 /** Counts the answers that are not as due; not a test of its own. */
 final class Due {
     static final int INVALID = -1000001;
@@ -11,12 +13,53 @@ final class Due {
     private Due() {
     }
 
+    /** One call of an object. */
+    interface Call {
+        int on(BellChairs x);
+    }
+
     static void due(String call, long got, long want) {
         asked++;
         if (got != want) {
             wrong++;
             System.out.println(call + " answered " + got + ", due is " + want);
         }
+    }
+
+    static void due(String call, Supplier<BellChairs> scene, Call asked, int want) {
+        due(call, asked.on(scene.get()), want);
+    }
+
+    /** The call is answered by this error, and changes nothing, nor what undo brings back. */
+    static void refused(String call, Supplier<BellChairs> scene, Call refused, int error) {
+        due(call, refused.on(scene.get()), error);
+        unchanged(call, scene, refused);
+    }
+
+    /** The call changes nothing, nor what undo brings back. */
+    static void unchanged(String call, Supplier<BellChairs> scene, Call idle) {
+        same(call + " changes nothing", scene, behind(scene, idle));
+    }
+
+    /** Both tell the same now, whatever their histories are. */
+    static void sameNow(String label, Supplier<BellChairs> one, Supplier<BellChairs> other) {
+        due(label, Told.now(one).equals(Told.now(other)) ? 1 : 0, 1);
+    }
+
+    static void same(String label, Supplier<BellChairs> one, Supplier<BellChairs> other) {
+        due(label, Told.of(one).equals(Told.of(other)) ? 1 : 0, 1);
+    }
+
+    static void differ(String label, Supplier<BellChairs> one, Supplier<BellChairs> other) {
+        due(label, Told.now(one).equals(Told.now(other)) ? 1 : 0, 0);
+    }
+
+    static Supplier<BellChairs> behind(Supplier<BellChairs> scene, Call call) {
+        return () -> {
+            BellChairs x = scene.get();
+            call.on(x);
+            return x;
+        };
     }
 
     static void end() {
@@ -38,11 +81,12 @@ final class Due {
         return x;
     }
 
-    static void write(BellChairs x, String text) {
+    static BellChairs write(BellChairs x, String text) {
         x.clearText();
         for (int i = 0; i < text.length(); i++) {
             due("type of " + text, x.type(text.charAt(i)), i + 1);
         }
+        return x;
     }
 
     /** Four chairs, five players; behind one beat they are at the places 0, 0, 1, 1, 1. */

@@ -9,6 +9,8 @@ public final class ModelTest {
     };
 
     private static long seed;
+    /** Those of the object of this run. */
+    private static int calls;
     private static int[] answers;
 
     public static void main(String[] args) {
@@ -45,18 +47,18 @@ public final class ModelTest {
         Model model = new Model();
         int chairs = 1 + pick(run % 3 == 0 ? 16 : 6);
         int players = 1 + pick(12);
-        int made = 0;
-        for (int i = 0; i < chairs; i++, made++) {
+        calls = 0;
+        for (int i = 0; i < chairs; i++) {
             int tone = pick(9);
             compare(run, "chair", x.chair(tone), model.chair(tone));
         }
-        for (int i = 0; i < players; i++, made++) {
+        for (int i = 0; i < players; i++) {
             int stride = pick(10);
             int ear = pick(3) == 0 ? 0 : pick(512) & pick(512);
             compare(run, "player", x.player(stride, ear), model.player(stride, ear));
         }
         int busy = 1 + pick(5);
-        for (int i = made; i < CALLS; i++) {
+        while (calls < CALLS) {
             if (pick(6) < busy) {
                 change(run, x, model);
             } else {
@@ -128,9 +130,10 @@ public final class ModelTest {
         if (pick(60) == 0) {
             int odd = pick(200);
             compare(run, 18, x.type(odd), model.type(odd));
+            return;
         }
         String scrap = SCRAPS[pick(SCRAPS.length)];
-        for (int i = 0; i < scrap.length(); i++) {
+        for (int i = 0; i < scrap.length() && calls < CALLS; i++) {
             compare(run, 18, x.type(scrap.charAt(i)), model.type(scrap.charAt(i)));
         }
     }
@@ -193,6 +196,7 @@ public final class ModelTest {
     }
 
     private static void compare(int run, String call, int got, int want) {
+        calls++;
         Due.due("run " + run + ": " + call, got, want);
     }
 }

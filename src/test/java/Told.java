@@ -1,10 +1,36 @@
-/** All that an object tells but its history, as one text; not a test of its own. */
+import java.util.function.Supplier;
+
+/** All that an object tells, as one text; not a test of its own. */
 final class Told {
     private Told() {
     }
 
-    static String of(BellChairs x) {
+    /**
+     * What the object tells now and behind each undo, down to the empty history. Each time a new
+     * object is asked, as the document promises nothing of one behind its 512th call.
+     */
+    static String of(Supplier<BellChairs> maker) {
         StringBuilder told = new StringBuilder();
+        for (int back = 0; back <= 5; back++) {
+            BellChairs x = maker.get();
+            for (int i = 0; i < back; i++) {
+                told.append("undo ").append(x.undo()).append(' ');
+            }
+            told.append(x.count(14)).append(' ');
+            tellAll(x, told);
+        }
+        return told.toString();
+    }
+
+    /** What the object tells now, but nothing of its history. */
+    static String now(Supplier<BellChairs> maker) {
+        StringBuilder told = new StringBuilder();
+        tellAll(maker.get(), told);
+        return told.toString();
+    }
+
+    /** Some 310 calls. */
+    private static void tellAll(BellChairs x, StringBuilder told) {
         for (int what = 0; what <= 20; what++) {
             if (what != 14) {
                 told.append(x.count(what)).append(' ');
@@ -31,6 +57,9 @@ final class Told {
                 told.append(x.bell(ago, what)).append(' ');
             }
         }
-        return told.toString();
+        for (int what = 0; what < 3; what++) {
+            told.append(x.fault(what)).append(' ');
+        }
+        told.append('\n');
     }
 }

@@ -1,3 +1,6 @@
+import java.util.List;
+import java.util.function.Supplier;
+
 /** Promises 14 to 19. */
 public final class WouldBeTest {
     public static void main(String[] args) {
@@ -6,6 +9,7 @@ public final class WouldBeTest {
         outs();
         safeIn();
         safeInToTheLast();
+        eachQuestionBeginsAnew();
         mean();
         count();
         twoSums();
@@ -107,6 +111,28 @@ public final class WouldBeTest {
         x.train(2, 0, 0);
         x.train(0, 2, 0);
         Due.due("safeIn(2), when nobody changes place", x.safeIn(2), 0);
+    }
+
+    /** What was asked ahead of it leaves no trace in what is asked, nor in a stop. */
+    private static void eachQuestionBeginsAnew() {
+        Supplier<BellChairs> scene = () -> {
+            BellChairs x = Due.made(new int[] {5, 6, 7}, new int[] {1, 0, 0, 1, 0});
+            for (int player = 0; player < 5; player++) {
+                x.train(player, player % 3 == 0 ? 1 : 0, 1 << 5);
+            }
+            x.start();
+            x.beat(2);
+            // At the places 2, 1, 2, 2, 1: somebody comes to 0 in the second tick.
+            Due.due("tick of 2", x.ifStopped(2, 2), 2);
+            x.beat(2);
+            return x;
+        };
+        // At the places 1, 1, 2, 1, 1: the first one comes to 0 in the third tick.
+        Due.due("seat of 1", scene, x -> x.ifStopped(1, 0), 0);
+        Due.due("tick of 1", scene, x -> x.ifStopped(1, 2), 3);
+        Due.due("outs", scene, x -> x.outs(), 0b11000);
+        Due.due("safeIn", scene, x -> x.safeIn(1), 0);
+        Due.due("stop", scene, x -> x.stop(), 0b11000);
     }
 
     private static void mean() {
@@ -220,63 +246,54 @@ public final class WouldBeTest {
     }
 
     private static void undoEach() {
-        BellChairs x = Due.made(new int[] {1, 2}, new int[] {3, 4, 5});
-        String before = ahead(x);
-        x.chair(3);
-        back("chair", x, before);
-        before = ahead(x);
-        x.player(1, 1);
-        back("player", x, before);
-        before = ahead(x);
-        x.tune(1, 8);
-        back("tune", x, before);
-        before = ahead(x);
-        x.train(2, 9, 511);
-        back("train", x, before);
-        before = ahead(x);
-        x.set(0, x.count(20) % 3 + 1);
-        back("set", x, before);
-        before = ahead(x);
-        x.start();
-        back("start", x, before);
-        Due.write(x, "c7;p1,1;p1,1;g;");
-        before = ahead(x);
-        Due.due("play", x.play(), 4);
-        back("play", x, before);
-        x.start();
-        before = ahead(x);
-        x.beat(7);
-        back("beat", x, before);
-        before = ahead(x);
-        x.stop();
-        back("stop", x, before);
+        back("chair", Scenes::ready, x -> x.chair(3));
+        back("player", Scenes::ready, x -> x.player(1, 1));
+        back("start", Scenes::ready, x -> x.start());
+        back("start", Scenes::between, x -> x.start());
+        back("play", () -> Due.write(Scenes.between(), "c7;p1,1;p1,1;g;"), x -> x.play());
+        back("beat", Scenes::musicAgain, x -> x.beat(7));
+        back("stop", Scenes::music, x -> x.stop());
+        back("stop, when it is over behind it", Scenes::musicOfTwo, x -> x.stop());
+        List<Supplier<BellChairs>> phases =
+                List.of(Scenes::between, Scenes::musicAgain, Scenes::over);
+        for (Supplier<BellChairs> scene : phases) {
+            back("tune", scene, x -> x.tune(0, 8));
+            back("train", scene, x -> x.train(1, 9, 510));
+            back("set", scene, x -> x.set(0, 3));
+        }
     }
 
-    /** Another change, so that the one ahead has left no trace where the next one is kept. */
-    private static String ahead(BellChairs x) {
-        x.set(0, x.count(20) % 3 + 1);
-        return Told.of(x);
-    }
-
-    private static void back(String call, BellChairs x, String before) {
-        Due.due(call + " has changed something", Told.of(x).equals(before) ? 1 : 0, 0);
-        Due.due("undo of " + call, x.undo() >= 0 ? 1 : 0, 1);
-        Due.due(call + " is undone", Told.of(x).equals(before) ? 1 : 0, 1);
+    /** Another change comes first, so that nothing from ahead of it lies in the history's row. */
+    private static void back(String call, Supplier<BellChairs> scene, Due.Call change) {
+        Supplier<BellChairs> ahead = Due.behind(scene, x -> x.set(0, 2));
+        Supplier<BellChairs> changed = Due.behind(ahead, change);
+        Due.due(call + " is possible", change.on(ahead.get()) >= 0 ? 1 : 0, 1);
+        Due.differ(call + " changes something", ahead, changed);
+        Supplier<BellChairs> undone = Due.behind(changed, x -> x.undo());
+        Due.sameNow(call + " is undone", ahead, undone);
+        Due.same(call + " is undone to the last", Scenes.spent(ahead), Scenes.spent(undone));
     }
 
     private static void undoAll() {
-        BellChairs x = Due.crowd(1 << 6);
-        x.set(0, 3);
-        String before = Told.of(x);
-        x.stop();
-        x.tune(0, 1);
-        x.train(0, 9, 9);
-        x.start();
-        Due.due("states", x.count(14), 4);
-        for (int left = 3; left >= 0; left--) {
-            Due.due("undo", x.undo(), left);
-        }
-        Due.due("all is as it was", Told.of(x).equals(before) ? 1 : 0, 1);
-        Due.due("stop", x.stop(), 16);
+        Supplier<BellChairs> before = () -> {
+            BellChairs x = Due.crowd(1 << 6);
+            x.set(0, 3);
+            return x;
+        };
+        Supplier<BellChairs> behind = () -> {
+            BellChairs x = before.get();
+            x.stop();
+            x.tune(0, 1);
+            x.train(0, 9, 9);
+            x.start();
+            Due.due("states", x.count(14), 4);
+            for (int left = 3; left >= 0; left--) {
+                Due.due("undo", x.undo(), left);
+            }
+            return x;
+        };
+        Due.sameNow("all is as it was", before, behind);
+        Due.same("to the last", Scenes.spent(before), Scenes.spent(behind));
+        Due.due("stop", behind, x -> x.stop(), 16);
     }
 }
